@@ -1,0 +1,116 @@
+import java.lang.reflect.Method;
+import java.util.ArrayList;
+import java.util.List;
+
+/** One run of calls, told as texts, on a new MarshCourt; a test program makes several and ends with finish(). */
+final class Run {
+    private static int checked = 0;
+    private static int wrong = 0;
+
+    final MarshCourt court = new MarshCourt();
+    private final String name;
+
+    Run(String name) {
+        this.name = name;
+    }
+
+    /** Makes a call, written as in Java with numbers only, and holds its answer against the one that is due. */
+    Run due(String call, long want) {
+        equal(name, call, call(call), want);
+        return this;
+    }
+
+    /** Makes calls whose answers do not matter here; none of them may be a refusal. */
+    Run go(String... calls) {
+        for (String call : calls) {
+            long got = call(call);
+            if (got == MarshCourt.NONE || got == MarshCourt.BAD || got == MarshCourt.STATE || got == MarshCourt.FULL) {
+                equal(name, call + " (no refusal is due)", got, 0);
+            }
+        }
+        return this;
+    }
+
+    /** Feeds a text to THE TAPE. */
+    Run tape(String text) {
+        for (int from = 0; from < text.length(); from += 8) {
+            int to = Math.min(text.length(), from + 8);
+            long w = 0;
+            for (int i = from; i < to; i++) {
+                w = w << 8 | text.charAt(i);
+            }
+            go("feed(" + w + ", " + (to - from) + ")");
+        }
+        return this;
+    }
+
+    /** Puts a text in force, which must be a CUSTOM. */
+    Run custom(String text, int day) {
+        long before = call("count(3)");
+        return tape(text).due("court(" + day + ")", before);
+    }
+
+    /** Hands a text to a court that must refuse it at a place. */
+    Run faulty(String text, int place) {
+        tape(text);
+        equal(name, "court of '" + text + "'", call("court(0)"), -10 - place);
+        return due("count(9)", 0);
+    }
+
+    /** Each call with each of the given numbers in place of its '#'. */
+    Run each(String call, long want, int... numbers) {
+        for (int n : numbers) {
+            due(call.replace("#", Integer.toString(n)), want);
+        }
+        return this;
+    }
+
+    long call(String call) {
+        int open = call.indexOf('(');
+        String inside = call.substring(open + 1, call.lastIndexOf(')')).trim();
+        String[] words = inside.isEmpty() ? new String[0] : inside.split("\\s*,\\s*");
+        Method method = method(call.substring(0, open), words.length);
+        List<Object> args = new ArrayList<>();
+        for (int i = 0; i < words.length; i++) {
+            boolean wide = method.getParameterTypes()[i] == long.class;
+            args.add(wide ? (Object) Long.valueOf(words[i]) : (Object) Integer.valueOf(words[i]));
+        }
+        try {
+            return ((Number) method.invoke(court, args.toArray())).longValue();
+        } catch (ReflectiveOperationException e) {
+            throw new IllegalStateException(name + ": " + call, e);
+        }
+    }
+
+    private static Method method(String name, int size) {
+        for (Method m : MarshCourt.class.getMethods()) {
+            if (m.getName().equals(name) && m.getParameterCount() == size && m.getDeclaringClass() == MarshCourt.class) {
+                return m;
+            }
+        }
+        throw new IllegalStateException("no call " + name + " with " + size + " numbers");
+    }
+
+    static void equal(String run, String call, long got, long want) {
+        checked++;
+        if (got != want) {
+            wrong++;
+            System.out.println(run + ": " + call + " answered " + got + ", due is " + want);
+        }
+    }
+
+    static void holds(String run, String what, boolean true1) {
+        checked++;
+        if (!true1) {
+            wrong++;
+            System.out.println(run + ": not so: " + what);
+        }
+    }
+
+    static void finish() {
+        System.out.println(checked + " answers looked at, " + wrong + " not as due");
+        if (wrong != 0) {
+            System.exit(1);
+        }
+    }
+}
