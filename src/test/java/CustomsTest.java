@@ -43,7 +43,7 @@ public final class CustomsTest {
         s.custom("h 5;r 0-3 own 2", 0).go("rod(0, 0, 9)").faulty("h 9;f 8;v 7;s 6;r 0-0 own 1;", 28);
         s.due("count(3)", 1).due("custom(0, 1, 1)", 5).due("mender(0, 0, 1, 0)", 2).custom("s 3", 0);
         s.due("custom(0, 2, 1)", 0).due("custom(0, 2, 2)", 0).due("custom(0, 2, 3)", 99).due("custom(0, 2, 4)", 3);
-        s.due("mender(0, 0, 2, 0)", -5).due("court(0)", -10);
+        s.due("mender(0, 0, 2, 0)", -5).due("court(0)", -10).faulty("s 5;", 4).custom("f 1", 0).due("custom(0, 3, 4)", 0).due("custom(0, 3, 2)", 1);
     }
 
     private static void faults() {
@@ -51,6 +51,7 @@ public final class CustomsTest {
         r.faulty("x", 0).faulty(" ", 0).faulty(";", 0).faulty("R", 0).faulty("5", 0).faulty("h", 1).faulty("h ", 2).faulty("h5", 1);
         r.faulty("h  5", 2).faulty("h 5 ", 3).faulty("h 5;", 4).faulty("h 5; f 3", 4).faulty("h 5 ;f 3", 3).faulty("h 5;;f 3", 4);
         r.faulty("h 5,f 3", 3).faulty("h -1", 2).faulty("h x", 2).faulty("h 5x", 3).faulty("h 5;x", 4).faulty("h 5h 5", 3);
+        r.faulty("h :", 2).faulty("h 5:", 3).faulty("h /", 2).faulty("h 5/", 3);
         Run s = new Run("part 4, faults of r");
         s.faulty("r", 1).faulty("r ", 2).faulty("r 1", 3).faulty("r 1-", 4).faulty("r 1-2", 5).faulty("r 1-2 ", 6);
         s.faulty("r 1 -2 front", 3).faulty("r 1- 2 front", 4).faulty("r 1-2front", 5).faulty("r 1-2  front", 6).faulty("r 1;h 5", 3);

@@ -56,11 +56,11 @@ public final class HerdsTest {
     }
 
     private static void fleeing() {
-        // SEA at 6, 9, 12, 9, 6, 3 through the SLUICE: 30, 75, 135, 175, 200 and it goes left; with HIGH 11 180 at most.
+        // Through the SLUICE 75 by the first TIDE; the second one makes it 95, 125, 160, 185, 200 and no more.
         Run r = pit("part 3, flees at 200");
-        r.go("sluice(0, 2)", "tide(12, 0, 0)").due("cell(14, 1)", 205).due("where(0)", 13);
+        r.go("sluice(0, 2)", "tide(4, 0, 0)", "tide(8, 0, 0)").due("cell(14, 3)", 200).due("where(0)", 13);
         Run q = pit("part 3, stays below 200");
-        q.go("sluice(0, 2)", "tide(11, 0, 0)").due("cell(14, 1)", 180).due("where(0)", 14);
+        q.go("sluice(0, 2)", "tide(3, 0, 2)", "tide(8, 0, 0)").due("cell(14, 3)", 199).due("where(0)", 14);
         Run s = pit("part 3, flees left");
         s.go("sluice(0, 2)", "tide(40, 0, 0)").due("where(0)", 13);
         Run t = pit("part 3, flees right").go("gate(13, 14, 0)", "sluice(0, 2)", "tide(40, 0, 0)");
@@ -78,7 +78,13 @@ public final class HerdsTest {
     }
 
     private static void drowning() {
-        // Rain alone, as deep all over: 499 and 500.
+        String[] walls = {"gate(13, 14, 0)", "gate(15, 14, 0)", "gate(8, 14, 0)", "gate(20, 14, 0)", "sluice(0, 2)"};
+        Run p = pit("part 3, 500").go(walls).go("tide(1, 0, 0)", "tide(30, 0, 0)").due("cell(14, 3)", 500).due("where(0)", -5);
+        Run q = pit("part 3, 499").go(walls).go("tide(6, 0, 2)", "tide(25, 0, 0)").due("cell(14, 3)", 499).due("where(0)", 14);
+        // It flees to the least WATER and drowns there, if that is 500 or more.
+        Run o = new Run("part 3, drowns where it went").go("tide(0, 0, 50)", "tide(0, 0, 50)", "herd(0)", "rod(0, 1, 0)", "tide(8, 0, 0)");
+        o.due("where(0)", -5).due("count(4)", 0).due("drive(0, 7)", STATE).due("drive(0, 6)", BAD);
+        // Rain alone, as deep all over.
         Run r = new Run("part 3, drowns at 500").go("herd(0)", "herd(29)", "tide(0, 0, 50)", "tide(0, 0, 33)");
         r.due("cell(0, 1)", 498).due("where(0)", 0).due("count(4)", 2);
         r.go("tide(0, 0, 1)").due("where(0)", -5).due("where(1)", -5).due("count(4)", 0);
@@ -102,6 +108,8 @@ public final class HerdsTest {
         // Round about rather than through a shut gate.
         r.go("gate(16, 17, 0)", "gate(11, 17, 0)").due("way(0, 30, 0)", 5).due("way(0, 30, 1)", 17);
         r.go("level(14, 60)").due("way(0, 60, 0)", 0).due("way(0, 60, 1)", 14);
+        Run s = new Run("promise 13, to the corners").go("herd(6)", "level(0, 9)").due("way(0, 9, 0)", 1).due("way(0, 9, 1)", 0);
+        s.go("level(29, 10)").due("way(0, 10, 0)", 8).due("way(0, 10, 1)", 29).go("level(5, 10)").due("way(0, 10, 0)", 6);
     }
 
     private static void gatesOnWays() {
@@ -124,6 +132,9 @@ public final class HerdsTest {
         t.go("level(20, 5)", "level(15, 5)", "level(8, 5)", "level(13, 5)", "level(26, 6)", "level(2, 6)");
         t.due("way(0, 5, 0)", -114).due("way(0, 5, 1)", -108).due("way(0, 6, 1)", -108);
         t.go("gate(8, 2, 0)").due("way(0, 6, 1)", -120).go("level(2, 7)").due("way(0, 7, 1)", -113);
+        // The end of a row is no NEIGHBOUR of the next one's start: CELL 6 to 5 goes by 0, or by 7 if that GATE is open.
+        Run v = new Run("promise 13, no way round").go("herd(6)", "level(5, 9)", "gate(0, 6, 0)", "gate(6, 7, 0)", "gate(6, 12, 0)");
+        v.due("way(0, 9, 0)", -106).due("way(0, 9, 1)", -107).go("gate(7, 8, 0)", "gate(7, 1, 0)", "gate(7, 13, 0)").due("way(0, 9, 1)", -100);
         // Two walls to go through: right goes ahead of below, but no farther than the moves allow.
         Run u = new Run("promise 13, fewest gates");
         u.go("herd(0)", "gate(0, 6, 0)", "gate(1, 7, 0)", "gate(2, 8, 0)", "gate(3, 9, 0)", "gate(4, 10, 0)", "gate(5, 11, 0)");

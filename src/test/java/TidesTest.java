@@ -8,6 +8,7 @@ public final class TidesTest {
         sluices();
         salt();
         days();
+        lastDay();
         cameAndWent();
         order();
         Run.finish();
@@ -55,6 +56,8 @@ public final class TidesTest {
         // Land of 60 has a SURFACE of 60: 300 could go out, but what is there goes.
         Run s = new Run("part 2, no more than there is");
         s.go("level(0, 60)", "rod(0, 1, 99)", "sluice(0, 2)", "tide(0, 0, 7)").due("count(7)", 42).due("cell(0, 1)", 0);
+        // A SURFACE 1 above the SEA: 5 go out; as high as the SEA: nothing moves.
+        Run u = new Run("part 2, 1 above").go(pit).go("level(0, 3)", "sluice(0, 2)", "tide(4, 0, 50)").due("cell(0, 1)", 900 - 5 - 5 - 10 - 20 - 35 - 45);
         // Two SLUICES of one CELL, by RODS: the second sees what the first left.
         Run t = new Run("part 2, two sluices").go(pit).go("rod(0, 1, 99)", "sluice(0, 2)", "sluice(1, 2)", "tide(4, 0, 0)");
         t.due("cell(0, 1)", 20 + 30 + 40 + (15 + 10) + (5 + 5) + 0);
@@ -77,6 +80,11 @@ public final class TidesTest {
             s.due("year()", 30).due("cell(0, 4)", i);
         }
         s.due("year()", 0).due("cell(0, 4)", 0);
+        // 600 are three years, 594 two.
+        Run u = new Run("part 2, 600").go("tide(0, 0, 50)", "tide(0, 0, 50)", "rod(0, 1, 39)", "tide(40, 0, 0)");
+        u.due("cell(29, 3)", 600).due("cell(29, 4)", 3);
+        Run v = new Run("part 2, 594").go("tide(0, 0, 50)", "tide(0, 0, 49)", "rod(0, 1, 39)", "tide(40, 0, 0)");
+        v.due("cell(29, 3)", 594).due("cell(29, 4)", 2);
         Run t = new Run("part 2, more than it has").go("rod(0, 1, 39)", "tide(0, 0, 50)", "tide(0, 0, 16)");
         // 396 of water and 10 of the SEA: CELL 0 has 400 by its PEAK, the rest 1 year.
         t.go("tide(40, 0, 0)").due("cell(0, 3)", 402).due("cell(0, 4)", 2).due("cell(20, 4)", 1).due("year()", 1);
@@ -94,11 +102,19 @@ public final class TidesTest {
         for (int day = 802; day <= 9602; day += 400) {
             r.due("pass(400)", day);
         }
-        r.due("pass(398)", MarshCourt.FULL).due("pass(396)", 9998).due("pass(2)", FULL).due("count(0)", 9998);
+        r.due("pass(398)", MarshCourt.FULL).due("pass(395)", 9997).due("pass(3)", FULL).due("pass(1)", 9998).due("pass(2)", FULL).due("count(0)", 9998);
         r.due("tide(0, 0, 0)", 0).due("count(0)", 9999).due("tide(0, 0, 0)", FULL).due("pass(1)", FULL);
         r.due("tide(121, 0, 0)", BAD).due("pass(0)", BAD).due("count(10)", 2);
         // A refused TIDE brings no water and leaves PEAK.
         r.due("tide(0, 0, 50)", FULL).due("cell(0, 1)", 300).due("cell(0, 3)", 300).due("count(6)", 9000);
+    }
+
+    private static void lastDay() {
+        Run r = new Run("promise 15, the last day");
+        for (int day = 400; day <= 9600; day += 400) {
+            r.due("pass(400)", day);
+        }
+        r.due("pass(400)", FULL).due("pass(399)", 9999).due("pass(1)", FULL).due("tide(0, 0, 0)", FULL);
     }
 
     private static void cameAndWent() {

@@ -95,7 +95,7 @@ public final class ViewsTest {
         // The sixty-first is refused and leaves the one that is there; what is no FAULT may still be viewed.
         r.go("pass(5)").due("view(0)", FULL).due("about(0, 6)", 0).due("fault(0, 1)", 0).due("fault(0, 3)", 5).due("count(5)", 1);
         r.due("view(1)", 0).due("about(1, 6)", 5).go("mend(0, 0, 9)").due("count(5)", 0).due("view(0)", 0).due("about(0, 6)", 5);
-        r.due("view(2)", NONE).due("fines(1)", 5);
+        r.due("view(2)", NONE).due("fines(1)", 5).custom("h 10", 0).due("view(0)", FULL);
     }
 
     private static void manyFines() {
