@@ -1231,14 +1231,24 @@ public final class MarshCourt {
             Arrays.fill(out, NO_RODS);
             Arrays.fill(single, IMPOSSIBLE);
             Arrays.fill(pair, IMPOSSIBLE);
+            // More HANDS than all RODS together need change nothing.
+            int enough = Math.min(limit, allNeeds(bank, due));
             for (int rod = 0; rod < bank.size; rod++) {
                 long gain = (worthOf(bank.cells[rod], land, due) << BITS) - (1L << rod);
-                consider(due - bank.heights[rod], gain, limit);
+                consider(due - bank.heights[rod], gain, enough);
             }
-            long best = bestFor(limit);
+            long best = bestFor(enough);
             worth = (int) (best >> BITS);
             set = (int) (NO_RODS - (best & NO_RODS));
             hands = handsFor(bank, due);
+        }
+
+        private static int allNeeds(Bank bank, int due) {
+            int sum = 0;
+            for (int rod = 0; rod < bank.size; rod++) {
+                sum += Math.max(0, due - bank.heights[rod]);
+            }
+            return sum;
         }
 
         private long bestFor(int n) {
