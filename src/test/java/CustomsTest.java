@@ -82,7 +82,7 @@ public final class CustomsTest {
         String ten = "h 1;h 2;h 3;h 4;h 5;h 6;h 7;h 8;h 9;h 10";
         Run r = new Run("part 4, ten clauses").custom(ten, 0).due("custom(0, 1, 1)", 10);
         r.faulty(ten + ";", 40).faulty(ten + ";h 11", 40).faulty(ten + "x", 40).faulty(ten + ";h 11;x", 40);
-        // The longest text of ten clauses takes 159 bytes.
+        // The longest text of ten clauses takes 139 bytes.
         String rule = "r 10-20 own 7";
         StringBuilder text = new StringBuilder(rule);
         for (int i = 1; i < 10; i++) {

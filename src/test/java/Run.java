@@ -1,17 +1,39 @@
 import java.lang.reflect.Method;
+import java.nio.file.Files;
+import java.nio.file.Path;
 import java.util.ArrayList;
 import java.util.List;
 
 /** One run of calls, told as texts, on a new MarshCourt; a test program makes several and ends with finish(). */
 final class Run {
+    /** What the document promises of one object: nothing is due behind so many calls. */
+    private static final int MOST_CALLS = 512;
+    private static final String DOCUMENT = document();
+    private static final Method[] METHODS = MarshCourt.class.getDeclaredMethods();
+
     private static int checked = 0;
     private static int wrong = 0;
 
     final MarshCourt court = new MarshCourt();
     private final String name;
+    private int calls;
 
     Run(String name) {
         this.name = name;
+    }
+
+    /** A run for one sentence of the document: it is seen if the document, where it is at hand, says it no longer. */
+    static Run of(String sentence) {
+        holds("the document", "it says '" + sentence + "'", DOCUMENT.isEmpty() || DOCUMENT.contains(sentence));
+        return new Run(sentence);
+    }
+
+    private static String document() {
+        try {
+            return Files.readString(Path.of("../shared/DOC.md")).replaceAll("\\s+", " ");
+        } catch (java.io.IOException e) {
+            return "";
+        }
     }
 
     /** Makes a call, written as in Java with numbers only, and holds its answer against the one that is due. */
@@ -65,7 +87,16 @@ final class Run {
         return this;
     }
 
+    /** A call with numbers on both sides of a span in place of its '#', the nearest and the farthest. */
+    Run outside(String call, long want, int least, int most) {
+        return each(call, want, least - 1, most + 1, Integer.MIN_VALUE, Integer.MAX_VALUE);
+    }
+
     long call(String call) {
+        calls++;
+        if (calls == MOST_CALLS + 1) {
+            holds(name, "a run has " + MOST_CALLS + " calls at most", false);
+        }
         int open = call.indexOf('(');
         String inside = call.substring(open + 1, call.lastIndexOf(')')).trim();
         String[] words = inside.isEmpty() ? new String[0] : inside.split("\\s*,\\s*");
@@ -83,8 +114,8 @@ final class Run {
     }
 
     private static Method method(String name, int size) {
-        for (Method m : MarshCourt.class.getMethods()) {
-            if (m.getName().equals(name) && m.getParameterCount() == size && m.getDeclaringClass() == MarshCourt.class) {
+        for (Method m : METHODS) {
+            if (m.getName().equals(name) && m.getParameterCount() == size) {
                 return m;
             }
         }
