@@ -337,7 +337,11 @@ public final class CustomEdgesTest {
     private static void tapeIsEmptyThen() {
         Run r = Run.of("THE TAPE, which is empty then, is a CUSTOM in force from a DAY on: the number of the COURT; -10 less the FAULT.");
         r.tape("h 5").due("count(9)", 3).due("court(0)", 0).due("count(9)", 0).tape("h x").due("court(0)", -12).due("count(9)", 0).due("count(3)", 1);
-        r.tape("f 7").due("court(0)", 1).due("custom(0, 2, 2)", 7).due("custom(0, 2, 1)", 0).due("count(9)", 0).due("count(3)", 2);
+        // Nothing of a text with a FAULT is left in the next one.
+        r.go("rod(0, 0, 0)").tape("h 9;f 8;v 7;s 6;r 0-0 own 5;").due("court(0)", -38).custom("r 1-1 own 1", 3).due("mender(0, 3, 2, 0)", -5);
+        r.due("custom(3, 2, 1)", 0).due("custom(3, 2, 2)", 0).due("custom(3, 2, 3)", 99).due("custom(3, 2, 4)", 0);
+        Run s = new Run("one by one").custom("h 5", 0);
+        s.tape("f 7").due("court(0)", 1).due("custom(0, 2, 2)", 7).due("custom(0, 2, 1)", 0).due("count(9)", 0).due("count(3)", 2);
     }
 
     private static void courtDays() {

@@ -280,6 +280,7 @@ public final class TideEdgesTest {
         Run r = Run.of("TOP being 100 times LEVEL and WATER").go("level(0, 1)", "tide(0, 0, 1)").due("cell(0, 1)", 0).due("count(8)", 180);
         // 100 of WATER against LEVEL 1: the same TOP, and nothing goes.
         topAgainstLevel("the same TOP", 10, 1, 100, 0);
+        topAgainstLevel("the same TOP by LEVEL 4", 40, 4, 400, 0);
         // 10 above: 2 go, then 1 of 6, 1 of 4, none of 2.
         topAgainstLevel("10 above", 11, 1, 106, 4);
         // LEVEL 2 is above 110, but no WATER is there that could go.
@@ -340,6 +341,11 @@ public final class TideEdgesTest {
         r.due("cell(29, 4)", 0).due("year()", 0);
         // 10 of it over a bank far away are enough for all, and so are 5 through a SLUICE; what goes out is not.
         r.go("tide(41, 0, 0)").due("count(6)", 9010).due("cell(29, 4)", 1).due("cell(0, 4)", 1).due("year()", 0);
+        // A TIDE of rain alone behind it brings no more, though the PEAK is 606 then.
+        r.go("tide(41, 0, 0)").due("cell(29, 4)", 1).go("tide(40, 0, 50)").due("cell(29, 4)", 1).go("tide(41, 0, 0)").due("cell(29, 4)", 3);
+        // An open SLUICE with the SEA as high as SURFACE brings none: 216 in the pit by rain, and 72 in CELL 29.
+        Run t = new Run("none by a sluice").go("level(1, 60)", "level(6, 60)", "rod(29, 1, 99)", "sluice(0, 2)", "tide(0, 0, 12)");
+        t.due("cell(0, 3)", 216).due("cell(0, 4)", 0).due("cell(29, 3)", 72).due("year()", 0);
         Run s = new Run("by a sluice").go("tide(0, 0, 50)", "rod(0, 1, 99)", "sluice(0, 3)", "tide(16, 0, 0)").due("cell(29, 4)", 0);
         s.due("count(6)", 9000).go("level(0, 1)", "sluice(0, 2)", "tide(0, 0, 0)").due("count(6)", 9000).due("cell(29, 4)", 0);
         Run.holds("by a sluice", "some went out", s.call("count(7)") > 0);

@@ -287,6 +287,11 @@ public final class ViewEdgesTest {
             t.go("rod(0, 0, 9)");
         }
         t.due("works(200, 0)", 960).due("works(200, 2)", 16).due("works(200, 1)", 0b011011011011011011011011);
+        // The last ROD is one of them, the only one.
+        for (int rod = 0; rod < 23; rod++) {
+            t.go("mend(" + rod + ", 0, 1)");
+        }
+        t.due("works(200, 1)", 1 << 23).due("works(200, 0)", 60).due("works(1, 2)", 1).due("works(0, 1)", 0);
     }
 
     private static void worksRows() {
