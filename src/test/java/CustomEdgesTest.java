@@ -513,10 +513,7 @@ public final class CustomEdgesTest {
         for (int rod = 0; rod < 9; rod++) {
             r.go("rod(0, 0, 0)");
         }
-        for (int owner = 1; owner < 8; owner++) {
-            r.go("sell(" + (4 * owner) + ", 0, " + owner + ", 12, 0)", "sell(" + (4 * owner - 1) + ", 0, " + owner + ", 12, 0)",
-                    "sell(" + (4 * owner - 2) + ", 0, " + owner + ", 12, 0)", "sell(" + (4 * owner - 3) + ", 0, " + owner + ", 9, 0)");
-        }
+        r.sellAlike();
         r.custom("r 0-4 acres", 0).custom("r 0-7 acres", 0).custom("r 0-8 acres", 0).custom("r 0-6 acres", 0);
         for (int rod = 0; rod < 9; rod++) {
             r.due("mender(" + rod + ", 0, 1, 28)", rod < 5 ? rod : COMMON).due("mender(" + rod + ", 0, 2, 28)", rod < 8 ? rod : COMMON);

@@ -352,10 +352,7 @@ public final class ViewEdgesTest {
     private static void scotRemainders() {
         // 45 each: of n what is left goes to the least OWNERS.
         Run r = new Run("all alike");
-        for (int owner = 1; owner < 8; owner++) {
-            r.go("sell(" + (4 * owner) + ", 0, " + owner + ", 12, 0)", "sell(" + (4 * owner - 1) + ", 0, " + owner + ", 12, 0)",
-                    "sell(" + (4 * owner - 2) + ", 0, " + owner + ", 12, 0)", "sell(" + (4 * owner - 3) + ", 0, " + owner + ", 9, 0)");
-        }
+        r.sellAlike();
         for (int sum = 0; sum <= 17; sum++) {
             for (int owner = 0; owner < 8; owner++) {
                 r.due("scot(" + sum + ", " + owner + ")", sum / 8 + (owner < sum % 8 ? 1 : 0));

@@ -122,10 +122,7 @@ public final class WorksTest {
         r.go("sell(5, 0, 3, 12, 2)").due("scot(360, 3)", 0).go("pass(1)").due("scot(360, 3)", 0).go("pass(1)").due("scot(360, 3)", 12);
         // All OWNERS alike, 45 each: 7 of 15 by the least remainders' owners.
         Run s = new Run("promise 27, alike");
-        for (int owner = 1; owner < 8; owner++) {
-            s.go("sell(" + (4 * owner) + ", 0, " + owner + ", 12, 0)", "sell(" + (4 * owner - 1) + ", 0, " + owner + ", 12, 0)",
-                    "sell(" + (4 * owner - 2) + ", 0, " + owner + ", 12, 0)", "sell(" + (4 * owner - 3) + ", 0, " + owner + ", 9, 0)");
-        }
+        s.sellAlike();
         for (int owner = 0; owner < 8; owner++) {
             s.due("held(-1, " + owner + ", 0, 28)", 45).due("scot(15, " + owner + ")", owner < 7 ? 2 : 1).due("scot(8, " + owner + ")", 1);
             s.due("scot(3, " + owner + ")", owner < 3 ? 1 : 0);
