@@ -26,6 +26,8 @@ public final class FaceTest {
         fieldsAndConstructors();
         classesInside();
         source();
+        faceOfTheDocument();
+        partsOfTheInterface();
         Run.finish();
     }
 
@@ -111,5 +113,39 @@ public final class FaceTest {
         }
         Run.holds("rule 4", "only Arrays is taken from the library",
                 code.replace("import java.util.Arrays;", "").indexOf("import") < 0);
+    }
+
+    /** Each line of the document's face stands in the class as it is there, in the same order. */
+    private static void faceOfTheDocument() throws Exception {
+        String text = Files.readString(Path.of("src/main/java/MarshCourt.java"));
+        String document = Files.readString(Path.of("../shared/DOC.md"));
+        String face = document.substring(document.indexOf("```java"), document.indexOf("## Terms"));
+        int at = 0;
+        int lines = 0;
+        for (String line : face.split("\n")) {
+            if (line.contains("public")) {
+                String due = line.trim().replace(");", ") {");
+                int found = text.indexOf(due, at);
+                Run.holds("face", "'" + due + "' stands in the class, behind those told ahead of it", found >= 0);
+                at = Math.max(at, found);
+                lines++;
+            }
+        }
+        Run.equal("face", "the class, the constants, the constructor, the calls", lines, 3 + FACE.split(" ").length);
+    }
+
+    /** "Ahead of the calls .. the interface says: ---- .." */
+    private static void partsOfTheInterface() throws Exception {
+        String text = Files.readString(Path.of("src/main/java/MarshCourt.java"));
+        int parts = 0;
+        for (String line : Files.readAllLines(Path.of("../shared/DOC.md"))) {
+            Matcher m = Pattern.compile("Ahead of the calls `(\\w+)`.* the interface says: ---- (.*)\\.").matcher(line);
+            if (m.matches()) {
+                String due = "    // ---- " + m.group(2) + "\n\n    public int " + m.group(1) + "(";
+                Run.holds("face", "'---- " + m.group(2) + "' stands ahead of " + m.group(1), text.contains(due));
+                parts++;
+            }
+        }
+        Run.equal("face", "parts", parts, 5);
     }
 }

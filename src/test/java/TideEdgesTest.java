@@ -268,7 +268,7 @@ public final class TideEdgesTest {
 
     private static void quartersBack() {
         // 10 come to CELL 1: 2 go back to 0, 2 to 2 (of 8), 1 to 7 (of 6); then none of 3, none of 3, 1 of 4.
-        Run r = Run.of("Each CELL by numbers, first with the right one, then with the one below").go("rod(1, 1, 39)", "tide(40, 0, 0)");
+        Run r = Run.of("(4) Each CELL by numbers, first with the right one, then with the one below").go("rod(1, 1, 39)", "tide(40, 0, 0)");
         r.due("cell(0, 1)", 2).due("cell(1, 1)", 4).due("cell(2, 1)", 2).due("cell(7, 1)", 2).due("count(8)", 10).due("cell(6, 1)", 0);
         Run s = new Run("the last cell").go("rod(29, 1, 39)", "tide(40, 0, 0)").due("count(8)", 10);
         // CELL 23's turn (with the one below) gives it 2, CELL 28's (with the right one) 2 of 8; then 23 gets 1 of 4.
