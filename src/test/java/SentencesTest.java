@@ -44,7 +44,7 @@ public final class SentencesTest {
 
     private static void greatestTidesAllLife() {
         // 24 banks of 0, 10 times 60, 90, 120, 90, 60, 30 over each, and 9000 of rain: 117000 by each TIDE.
-        Run r = new Run("486 of the greatest tides");
+        Run r = new Run("485 of the greatest tides");
         for (int rod = 0; rod < 24; rod++) {
             r.go("rod(" + rod + ", 1, 0)");
         }
